@@ -375,17 +375,19 @@ public final class LaughLine {
             return NONE;
         }
         findDawn();
+        int start = dawn.alights;
         int best = 0;
         int most = NONE;
         for (int mile = 0; mile <= plan.last; mile++) {
             trial.copy(dawn);
             trial.setTold(joke, mile, true);
             trial.rideOut(twist.plain());
-            int alight = trial.alights - dawn.alights;
-            if (alight > most) {
-                most = alight;
+            if (trial.alights - start > most) {
+                most = trial.alights - start;
                 best = mile;
             }
+            // the miles ahead of a telling are the same for all that come later
+            dawn.oneMile(twist.plain());
         }
         return what == 0 ? best : most;
     }
@@ -505,11 +507,12 @@ public final class LaughLine {
             trial.rideOut(twist.plain());
             above += trial.passengers[rider].alighted - dawn.passengers[rider].alighted;
         }
-        int common = 10;
-        while (common > 1 && (above % common != 0 || 10 % common != 0)) {
-            common--;
+        for (int common = 10; common > 1; common--) {
+            if (above % common == 0 && 10 % common == 0) {
+                return what == 0 ? above / common : 10 / common;
+            }
         }
-        return what == 0 ? above / common : 10 / common;
+        return what == 0 ? above : 10;
     }
 
     public int solemn() {
