@@ -943,11 +943,11 @@ public final class LaughLine {
         }
 
         private boolean takes(int sign) {
-            if (peek() != sign) {
-                return false;
+            boolean there = next >= 0 && next < length && next < bytes.length && bytes[next] == sign;
+            if (there) {
+                next++;
             }
-            next++;
-            return true;
+            return there;
         }
     }
 
@@ -958,6 +958,8 @@ public final class LaughLine {
         static final int TOLD_ALREADY = 3;
         static final int UNKNOWN_JOKE = 4;
 
+        /** How strongly a comparison binds. */
+        static final int COMPARES = 4;
         static final int OPEN_MOST = 8;
         static final int NUMBER_MOST = 9999;
         static final int WIDEST = 5;
@@ -1193,13 +1195,10 @@ public final class LaughLine {
             if (strength == 0 || token == Scanner.NOT) {
                 return refuse(CANT_STAND);
             }
-            if (isComparison(token)) {
-                release(laws, strength + 1);
-                if (isComparison(top())) {
-                    return refuse(CANT_STAND);
-                }
-            } else {
-                release(laws, strength);
+            // a comparison doesn't end another one: two of them can't stand in a row
+            release(laws, strength == COMPARES ? strength + 1 : strength);
+            if (strength == COMPARES && strength(top()) == COMPARES) {
+                return refuse(CANT_STAND);
             }
             hold(token);
             return countKnot();
@@ -1232,10 +1231,6 @@ public final class LaughLine {
             }
         }
 
-        private static boolean isComparison(int token) {
-            return token >= Scanner.LESS && token <= Scanner.GREATER;
-        }
-
         /** How strongly a sign binds; 0 for what is none. */
         private static int strength(int token) {
             if (token == Scanner.OR) {
@@ -1247,8 +1242,8 @@ public final class LaughLine {
             if (token == Scanner.NOT) {
                 return 3;
             }
-            if (isComparison(token)) {
-                return 4;
+            if (token >= Scanner.LESS && token <= Scanner.GREATER) {
+                return COMPARES;
             }
             if (token == Scanner.PLUS || token == Scanner.MINUS) {
                 return 5;

@@ -332,6 +332,9 @@ public final class PromiseTest {
         due("far above", worth("9999*9999*9999*(9999*9999*9999)"), ERROR);
         due("above between", worth("(1000*1000*1000*1000+1)*0"), ERROR);
         due("far below", worth("(0-9999*9999*9999)*(9999*9999*9999)"), ERROR);
+        due("a long would wrap to 0", worth("8192*8192*8192*(4096*8192)"), ERROR);
+        due("a long would wrap to 0", worth("(0-8192*8192*8192)*(4096*8192)"), ERROR);
+        due("a long would wrap to 0", worth("8192*8192*8192*(0-4096*8192)"), ERROR);
         due("0 times", worth("0*(1000*1000*1000*1000)"), 0);
         // with an error, as without a law
         LaughLine x = with("rider r 9 50 0 1;joke j 20 1;tell j 0;law mirth 1/0;law laugh 1/0;law calm 1/0;");
@@ -757,6 +760,16 @@ public final class PromiseTest {
         x = with(t);
         due("stopped(2)", x.stopped(2), 1);
         due("getsOut(2)", x.getsOut(2), -2);
+        // p and q, or r alone, who laughs if one of them does: the fewest, though 4 is more than 3
+        t = "line 5;rider p 60 10 3 0;rider q 60 10 3 0;rider r 60 22 2 0;rider b 3 21 1 0;joke j 12 1;sight 3 12;tell j 0;"
+            + "law mirth 12;law calm 0;near 0;law laugh mood>=dull and (dull=21 or mile=0);";
+        due("stopped(3)", with(t).stopped(3), 4);
+        // its own ears would help: they are none of the others'
+        x = with("line 5;rider b 3 20 0 0;joke j 25 1;sight 1 12;sight 3 12;tell j 0;law mirth fun;law calm 0;near 0;"
+            + "law laugh mood>=dull and halts=0;");
+        due("stopped(0)", x.stopped(0), -2);
+        x.ears(0, true);
+        due("stopped(0), it is deaf", x.stopped(0), 0);
     }
 
     private static void clowns() {
@@ -827,6 +840,15 @@ public final class PromiseTest {
         x = with("rider a 0 10 0 0;sight 0 12;");
         due("late(0) at once", x.late(0), 0);
         due("solemn()", x.solemn(), 0);
+        // the longest line: mile 60 is one of this day, and of the next one
+        x = with("line 60;rider a 60 10 0 0;joke j 12 1;tell j 60;near 0;law mirth 12-heard;");
+        due("late(0)", x.late(0), 60);
+        due("getsOut(0)", x.getsOut(0), 60);
+        due("when(0, 1)", x.when(0, 1), 1);
+        due("likely(0, 0)", x.likely(0, 0), 1);
+        x = with("line 60;rider a 60 12 0 0;joke j 12 1;tell j 60;near 0;law mirth 12-heard;");
+        due("late(0), heard at 60", x.late(0), -2);
+        due("solemn(), heard at 60", x.solemn(), 1);
     }
 
     private static void notes() {
