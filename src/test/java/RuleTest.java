@@ -40,6 +40,7 @@ public final class RuleTest {
         }
         source(Files.readString(Path.of(args.length > 0 ? args[0] : "src/main/java/LaughLine.java"), StandardCharsets.ISO_8859_1));
         room();
+        anyArguments();
         System.out.println("RuleTest: " + wrong + " wrong");
         if (wrong != 0) {
             System.exit(1);
@@ -149,6 +150,49 @@ public final class RuleTest {
         long made = bean.getThreadAllocatedBytes(id) - before;
         need(lines == 8, "the text has " + lines + " lines");
         need(made < 4096, "calls made " + made + " bytes of objects");
+    }
+
+    /** Rule 7: nothing but rider's two exceptions, whatever is asked in whatever state. */
+    private static void anyArguments() {
+        int[] edges = {Integer.MIN_VALUE, -2, -1, 0, 0, 0, 1, 1, 2, 3, 4, 5, 6, 7, 9, 10, 23, 24, 25, 59, 60, 61, 62, 63, 64, 99, 100,
+            700, 701, Integer.MAX_VALUE};
+        String[] texts = {"", "line 1;rider a 1 0 9 3;joke j 99 3;law mirth 0-9999;law laugh 1;law calm 1/mood;",
+            "line 60;rider a 0 0 0 0;rider b 60 99 9 3;rider c 60 1 1 1;rider d 3 1 2 1;rider e 5 1 3 1;rider f 6 1 4 1;"
+            + "joke a 9 0;joke b 9 1;joke c 9 2;joke d 9 3;joke e 99 0;joke f 99 1;law mirth 99;near 9;"};
+        java.util.Random random = new java.util.Random(11);
+        Method[] methods = LaughLine.class.getMethods();
+        Arrays.sort(methods, java.util.Comparator.comparing(Method::getName));
+        for (int run = 0; run < 60; run++) {
+            LaughLine x = new LaughLine();
+            String text = texts[run % texts.length];
+            for (int i = 0; i < text.length(); i += 20) {
+                x.feed(word(text, i), word(text, i + 4), word(text, i + 8), word(text, i + 12), word(text, i + 16));
+            }
+            x.text(text.length());
+            for (int call = 0; call < 450; call++) {
+                Method m = methods[random.nextInt(methods.length)];
+                Object[] v = new Object[m.getParameterCount()];
+                for (int i = 0; i < v.length; i++) {
+                    v[i] = m.getParameterTypes()[i] == boolean.class ? (Object) random.nextBoolean()
+                        : (Object) edges[random.nextInt(edges.length)];
+                }
+                if (m.getDeclaringClass() == LaughLine.class && !m.getName().equals("text")) {
+                    ask(x, m, v);
+                }
+            }
+        }
+    }
+
+    private static void ask(LaughLine x, Method m, Object[] v) {
+        try {
+            m.invoke(x, v);
+        } catch (java.lang.reflect.InvocationTargetException e) {
+            Class<?> c = e.getCause().getClass();
+            boolean due = c == IndexOutOfBoundsException.class || c == java.util.NoSuchElementException.class;
+            need(m.getName().equals("rider") && due, "rule 6: " + m + Arrays.toString(v) + " threw " + e.getCause());
+        } catch (IllegalAccessException e) {
+            need(false, "rule 1: " + m);
+        }
     }
 
     private static int word(String text, int at) {
