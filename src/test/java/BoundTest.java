@@ -53,6 +53,7 @@ public final class BoundTest {
         minutes();
         valueBounds();
         division();
+        namesOfNone();
         daysAtMost();
         goAtMost();
         aheadBounds();
@@ -62,6 +63,7 @@ public final class BoundTest {
         quarters();
         seatingOfFour();
         fewestEars();
+        leastEars();
         likelyParts();
         solemnBits();
         lateBounds();
@@ -72,7 +74,11 @@ public final class BoundTest {
         chanceBounds();
         drawnNumbers();
         triedBounds();
+        triedOtherwise();
+        seatsByCall();
+        tellingsByCall();
         undoAtMost();
+        undoOfOthers();
         undoBehindMiles();
         images();
         System.out.println("BoundTest: " + wrong + " wrong");
@@ -423,6 +429,43 @@ public final class BoundTest {
         worth("1<>0", 1);
     }
 
+    /** "fun: ... (of laugh, calm 0)", "likes: ... (of a SIGHT, laugh, calm 0)", "heard: ... (of a SIGHT, laugh, calm 0)" */
+    private static void namesOfNone() {
+        String[] names = {"fun", "likes", "heard"};
+        for (String name : names) {
+            LaughLine x = with("line 1;rider a 60 99 0 1;joke j 20 1;tell j 0;law mirth 5;law laugh " + name + ";law calm " + name + ";");
+            x.go(5);
+            due("heard", x.heard(0, 0), 3);
+            due(name + " of laugh", x.law(1, 0, 0), 0);
+            due(name + " of calm", x.law(2, 0, 0), 0);
+            due(name + ": nobody laughs", x.count(10), 0);
+            due(name + ": nobody is calmer", x.rider(0, 4), 5);
+            x = with("line 1;rider a 60 99 0 1;joke j 20 1;tell j 1;sight 0 7;law mirth " + name + "+1;" + STILL);
+            x.go(5);
+            due(name + " of a sight", x.rider(0, 4), name.equals("fun") ? 8 : 1);
+        }
+        // liked or not, heard or not: of a joke
+        LaughLine x = with("line 1;rider a 60 99 0 3;rider b 60 99 0 0;joke j 20 3;joke k 30 0;tell j 0;law mirth fun*100+likes*10+heard;");
+        long[] at = {2010, 3000, 2000, 3010};
+        for (int day = 0; day < 3; day++) {
+            due("a of j", x.law(0, 0, 0), at[0] + day);
+            due("a of k", x.law(0, 0, 1), at[1]);
+            due("b of j", x.law(0, 1, 0), at[2] + day);
+            due("b of k", x.law(0, 1, 1), at[3]);
+            x.go(2);
+        }
+        // mood, dull, halts, mile as they are now
+        x = with("line 9;rider a 60 10 0 0;rider b 60 80 5 0;sight 2 30;law calm 0;law laugh (mood>=dull)*(1+0*mile);law mirth fun;");
+        x.go(3);
+        LaughLine y = with("line 9;rider a 60 10 0 0;rider b 60 80 5 0;sight 2 30;law calm mood*0+dull*0+halts*0+mile*0;law laugh mood>=dull;");
+        y.go(3);
+        for (int rider = 0; rider < 2; rider++) {
+            due("the same by another law", x.rider(rider, 4), y.rider(rider, 4));
+        }
+        due("mood of a, who laughed", x.rider(0, 4), 0);
+        due("mood of b", x.rider(1, 4), 30);
+    }
+
     // ---- days and miles
 
     /** "NONE, and none does: no such number, the DAY is above 900" */
@@ -605,6 +648,14 @@ public final class BoundTest {
         }
         due("of several the first by the first joke's", with("line 10;rider a 4 10 0 0;rider b 6 10 5 0;joke j 10 1;joke k 10 2;near 0;"
             + "law calm 99;").both(0, 1, 0), 4);
+        // of the first joke alone it laughs: at each of the miles, the last one too
+        for (int home = 0; home <= 10; home += 2) {
+            LaughLine x = with("line 10;rider a " + home + " 10 0 0;joke j 10 1;joke k 0 2;near 0;law calm 99;");
+            due("the first joke at " + home, x.both(0, 1, 0), home);
+            due("the second at 0", x.both(0, 1, 1), 0);
+            due("the other way", x.both(1, 0, 1), home);
+            due("the other way", x.both(1, 0, 0), 0);
+        }
         due("then the second one's", with("line 10;rider a 4 10 0 0;rider b 6 10 5 0;joke j 10 1;joke k 10 2;near 0;"
             + "law calm 99;").both(0, 1, 1), 6);
     }
@@ -689,6 +740,24 @@ public final class BoundTest {
             due("another one: by none", x.stopped(other), -2);
             due("of its own ears nothing is said", x.has(who, 1), 0);
         }
+    }
+
+    /** One of two is enough: the least; who is deaf already is none of them. */
+    private static final String ONE_OF_TWO = "line 5;rider a 60 10 0 0;rider c 60 10 2 0;rider b 3 30 1 0;joke j 12 1;sight 3 12;tell j 0;"
+        + "law mirth 12;law calm 0;near 0;law laugh mood>=dull and (dull=30 or mile=0);";
+
+    private static void leastEars() {
+        LaughLine x = with(ONE_OF_TWO);
+        due("a or c: a", x.stopped(2), 1);
+        x.ears(0, true);
+        due("a is deaf", x.stopped(2), 0);
+        x.ears(0, false);
+        x.ears(1, true);
+        due("c is deaf", x.stopped(2), 0);
+        // two of the others, or one with more bits: the one
+        x = with("line 5;rider p 60 10 3 0;rider q 60 10 3 0;rider r 60 22 2 0;rider b 3 21 1 0;joke j 12 1;sight 3 12;tell j 0;"
+            + "law mirth 12;law calm 0;near 0;law laugh mood>=dull and (dull=21 or mile=0);");
+        due("the fewest, not the least bits", x.stopped(3), 4);
     }
 
     /** "in least terms" */
@@ -957,7 +1026,118 @@ public final class BoundTest {
         due("they are there", x.count(0), 2);
     }
 
+    /** "1 no TUNNELS, 2 RIDER i isn't there, 3 nobody catches it, 4 no EARS are STOPPED, 5 nothing is HEARD twice (heard is 0)" */
+    private static void triedOtherwise() {
+        String tunnel = "line 1;rider a 0 5 0 0;rider b 60 99 5 0;sight 0 9;tunnel 0 1;";
+        String ears = "line 1;rider a 0 5 0 0;rider b 60 99 5 0;joke j 90 1;tell j 0;";
+        String heard = "line 1;rider a 0 5 0 0;rider b 60 99 5 0;joke j 9 1;tell j 0;";
+        String lawful = "line 1;rider a 0 5 0 0;rider b 60 99 5 0;joke j 9 1;tell j 0;law mirth 9-9*heard;";
+        String[] texts = {tunnel, ears, heard, lawful};
+        int[][] alight = {{0, 3, 0, 0, 0, 0}, {0, 0, 0, 0, 3, 0}, {1, 1, 0, 1, 1, 3}, {1, 1, 0, 1, 1, 3}};
+        for (int t = 0; t < texts.length; t++) {
+            LaughLine x = with(texts[t]);
+            x.ears(0, t == 1);
+            for (int what = 0; what < 6; what++) {
+                due("tried " + what + " of " + texts[t], x.tried(what, 0, 6), alight[t][what]);
+            }
+            due("without b, of " + texts[t], x.tried(2, 1, 6), alight[t][0]);
+        }
+        // b laughs of 6 at 0 and a catches it, which is 16 at home; nobody catches it, or b isn't there: 6
+        String caught = "line 1;rider b 60 5 5 0;rider a 1 15 4 0;sight 0 6;near 0;law calm 0;law laugh mood>=dull and (mile=1 or dull=5);";
+        LaughLine x = with(caught);
+        int[] more = {3, 3, 0, 0, 3, 3};
+        for (int what = 0; what < 6; what++) {
+            due("tried " + what + " of " + caught, x.tried(what, 0, 6), more[what]);
+        }
+        due("without a", x.tried(2, 1, 6), 0);
+    }
+
     // ---- undone, images
+
+    /** "A RIDER is in a SEAT 0 .. 9 from now on" */
+    private static void seatsByCall() {
+        for (int rider = 0; rider < 3; rider++) {
+            LaughLine x = with("rider a 60 5 4 0;rider b 60 5 4 0;rider c 60 5 4 0;");
+            for (int seat = -2; seat <= 11; seat++) {
+                boolean such = seat >= 0 && seat <= 9 && seat != 4;
+                due("seat(" + rider + ", " + seat + ")", x.seat(rider, seat), such);
+                due("its seat", x.rider(rider, 2), such ? seat : 4);
+                due("of another one", x.rider((rider + 1) % 3, 2), 4);
+                due("can be undone", x.count(16), such ? 1 : 0);
+                due("undo()", x.undo(), such ? 0 : -1);
+                due("its seat again", x.rider(rider, 2), 4);
+            }
+        }
+        // from now on: on the next day, too; for whom it is beside
+        LaughLine x = with("line 1;rider a 60 5 0 0;rider b 60 99 5 0;sight 0 5;law calm 0;");
+        due("seat(1, 1)", x.seat(1, 1), true);
+        for (int day = 0; day < 3; day++) {
+            x.go(1);
+            due("b catches it", x.rider(1, 4), 15);
+            x.go(1);
+            due("its seat", x.rider(1, 2), 1);
+        }
+    }
+
+    /** "A JOKE is told at a MILE 0 .. 60 on each DAY from now on, or no more" */
+    private static void tellingsByCall() {
+        LaughLine x = with("line 1;rider a 60 99 0 0;joke i 1 1;joke j 2 1;tell j 30;");
+        int[] miles = {-1, 0, 1, 29, 30, 31, 32, 59, 60, 61, 62, 63, 64};
+        for (int mile : miles) {
+            boolean such = mile >= 0 && mile <= 60;
+            boolean is = mile == 30;
+            due("tell(1, " + mile + ", as it is)", x.tell(1, mile, is), false);
+            due("tell(1, " + mile + ", otherwise)", x.tell(1, mile, !is), such);
+            due("told(1, " + mile + ")", x.told(1, mile), such ? (is ? 0 : 1) : -1);
+            due("told(0, " + mile + ")", x.told(0, mile), such ? 0 : -1);
+            due("miles", x.joke(1, 2), such ? (is ? 0 : 2) : 1);
+            due("tellings", x.count(2), such ? (is ? 0 : 2) : 1);
+            due("of the other", x.joke(0, 2), 0);
+            due("undo()", x.undo(), such ? 0 : -1);
+            due("miles again", x.joke(1, 2), 1);
+        }
+        // on each day from now on, and no more
+        x = with("line 1;rider a 60 99 0 0;joke i 1 1;");
+        x.tell(0, 0, true);
+        x.go(6);
+        due("heard on three days", x.heard(0, 0), 3);
+        x.tell(0, 0, false);
+        x.go(6);
+        due("no more", x.heard(0, 0), 3);
+        // at a mile that is behind on this day: from the next day on
+        x.go(1);
+        x.tell(0, 0, true);
+        x.go(1);
+        due("not on this day", x.heard(0, 0), 3);
+        x.go(1);
+        due("on the next day", x.heard(0, 0), 4);
+    }
+
+    /** Those of all riders and jokes, more than twenty: each is as it was. */
+    private static void undoOfOthers() {
+        LaughLine x = with("rider a 60 5 0 0;rider b 60 5 0 0;rider c 60 5 0 0;joke i 1 1;joke j 2 1;joke k 3 1;");
+        for (int i = 0; i < 24; i++) {
+            due("change " + i, i % 2 == 0 ? x.seat(i / 2 % 3, 1 + i / 6) : x.tell(i / 2 % 3, 10 + i, true), true);
+        }
+        int left = 20;
+        for (int i = 23; i >= 4; i--) {
+            left--;
+            due("left", x.undo(), left);
+            if (i % 2 == 0) {
+                due("seat of " + i / 2 % 3, x.rider(i / 2 % 3, 2), i / 6);
+                due("seat of the next", x.rider((i / 2 + 1) % 3, 2), (i - 4) / 6 + (i >= 4 ? 1 : 0));
+            } else {
+                due("told", x.told(i / 2 % 3, 10 + i), 0);
+            }
+        }
+        due("none", x.undo(), -1);
+        due("seat of a", x.rider(0, 2), 1);
+        due("seat of b", x.rider(1, 2), 1);
+        due("seat of c", x.rider(2, 2), 0);
+        due("told(0, 11)", x.told(0, 11), 1);
+        due("told(1, 13)", x.told(1, 13), 1);
+        due("tellings", x.count(2), 2);
+    }
 
     /** "can be undone, the latest first (20 at most)" */
     private static void undoAtMost() {
