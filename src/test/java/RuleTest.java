@@ -122,12 +122,26 @@ public final class RuleTest {
         }
         int imports = code.split("\nimport |^import ", -1).length - 1;
         need(imports == 1 && code.contains("import java.util.NoSuchElementException;"), "rule 4: imports");
-        int length = 0;
-        for (String line : text.split("\n")) {
-            length = line.matches(" {4}( {4})?[a-zA-Z].*\\(.*\\{") ? 0 : length + 1;
-            boolean ends = line.matches(" {4}( {4})?}");
-            need(!ends || length <= 60 || line.startsWith("    }"), "rule 11: a method of " + length + " lines");
+        methodLengths(text.split("\n"));
+    }
+
+    /** A method ends at the next '}' that stands as far in as its first line. */
+    private static void methodLengths(String[] lines) {
+        int methods = 0;
+        for (int i = 0; i < lines.length; i++) {
+            boolean begins = lines[i].matches(" {4}( {4})?[a-zA-Z].*\\(.*\\) (throws .*)?\\{")
+                && !lines[i].matches(" *(if|for|while|switch|do|else) .*");
+            if (begins) {
+                String end = lines[i].replaceAll("[^ ].*", "") + "}";
+                int length = 1;
+                while (i + length < lines.length && !lines[i + length].equals(end)) {
+                    length++;
+                }
+                methods++;
+                need(length < 60, "rule 11: " + (length + 1) + " lines: " + lines[i]);
+            }
         }
+        need(methods > LaughLine.class.getDeclaredMethods().length, "rule 11: " + methods + " methods were found");
     }
 
     /** What many calls make is counted: nothing stays, nothing is made. */
